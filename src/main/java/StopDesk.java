@@ -734,7 +734,6 @@ public final class StopDesk {
             System.arraycopy(original.variables, 0, lowest.variables, 0, VARIABLES);
             lowest.code = expression;
             lowest.next = 0;
-            lowest.bottom = 0;
             depth = 1;
             runOn();
             for (int i = 0; i < MOST_PASSES_ASIDE && state == WAITING; i++) {
@@ -841,7 +840,6 @@ public final class StopDesk {
 
         private boolean leave(int returned) {
             depth--;
-            height = frames[depth].bottom;
             if (depth == 0) {
                 state = OVER;
                 result = returned;

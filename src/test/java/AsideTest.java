@@ -127,7 +127,10 @@ public final class AsideTest {
         checks.due("a division behind a call", Checks.evaluate(desk, 0, "C()/a"), -2);
         checks.due("thrown on from a second block", Checks.evaluate(desk, 0, "D(0)"), -2);
         gives(desk, 0, "D(1)", 1);
-        checks.due("value stays", desk.value(), 1);
+        for (int i = 0; i < 50; i++) {
+            checks.due("again and again", Checks.evaluate(desk, 0, "1+(2+(3+(1/0)))"), -2);
+        }
+        gives(desk, 0, "7-(8-9)", 8);
         checks.due("not caught outside", desk.line(0), 1);
         checks.due("go", desk.go(0, 50), 4);
         checks.due("output", desk.output(0), 2);

@@ -143,6 +143,9 @@ public final class BreakTest {
         checks.due("with condition", desk.hits(1), 4);
         checks.due("with a condition that is 0", desk.hits(2), 0);
         checks.due("no notes", desk.note(-1), 0);
+        desk.start();
+        checks.due("anew", desk.hits(0), 0);
+        checks.due("anew", desk.hits(1), 0);
     }
 
     private static void breaksStopAtTheirLine() {

@@ -220,7 +220,7 @@ public final class RunTest {
         over("A0{a=5;}", 0);
         over("A0{^5;!1;}", 5);
         over("A0{^B()+B();}B0{^21;!1;}", 42);
-        over("A0{^1+B();}B0{}", 1);
+        over("A0{^5-B();}B0{}", 5);
         over("A0{^1+B();}B0{a=6;}", 1);
         over("A0{^1+B();}B0{@1{?1{^4;}}}", 5);
         over("A0{^B(4);}B1{?a<2{^1;}^a*B(a-1);}", 24);
@@ -265,6 +265,7 @@ public final class RunTest {
         dead("A0{~{!1;}{}a=B();}B0{#8;}", 8);
         puts("A0{a=1+B(2+3)*2;!a;}B1{~{b=1+(2*(3+C()));}{^e;}}C0{#a+4;}", (1 + 4) * 2);
         puts("A0{@a<3{a=a+1;~{b=1+(2+(3+B(4,5)));}{}!a;}}B2{#1;}", 1, 2, 3);
+        puts("A0{@a<99{a=a+1;~{b=1+(2+(3+B(4,5)));}{}}!7-(8-9);}B2{#1;}", 8);
     }
 
     private static void divisionByZeroThrows() {

@@ -133,7 +133,9 @@ public final class TextTest {
         isNone("A0{}a0{}");
         isNone("A0{}B{}");
         isNone("A0{}B/{}");
+        isNone("A0{}B");
         isNone("A0{}B0");
+        isNone("A0{}B4");
         isNone("A0{}B0{}C0{}D0{}A0{}");
         isProgram("C3{}B2{}D1{}A0{}", 0);
     }
@@ -155,6 +157,7 @@ public final class TextTest {
         isNone("A0{a=A(0);}");
         isNone("A0{a=B;}B0{}");
         isNone("A0{a=B(;}B0{}");
+        isNone("A0{a=B(1;}B1{}");
         isNone("A0{a=B);}B0{}");
         isNone("A0{a=B(1,);}B1{}");
         isNone("A0{a=B(1,);}B2{}");
@@ -218,13 +221,14 @@ public final class TextTest {
         StopDesk desk = new StopDesk();
         Checks.load(desk, "A0{}");
         checks.due("load again", desk.load(), -1);
-        Checks.load(desk, "A0{");
+        checks.due("what an older text would complete", Checks.load(desk, "A0{"), -1);
         checks.due("the rest of a refused text", Checks.load(desk, "}"), -1);
     }
 
     private static void loadForgetsTheOlderProgram() {
         StopDesk desk = Checks.started("A0{!7;!8;~{#1;}{}!9;}");
         desk.watch(true);
+        desk.stop(0, 0, false);
         Checks.stop(desk, 1, "5", 0, true);
         desk.stop(2, 0, false);
         desk.go(0, 50);
@@ -243,6 +247,7 @@ public final class TextTest {
         checks.due("output(0)", desk.output(0), 0);
         checks.due("note(-1)", desk.note(-1), 0);
         checks.due("note(0)", desk.note(0), 0);
+        checks.due("hits(0)", desk.hits(0), -1);
         checks.due("hits(1)", desk.hits(1), -1);
         checks.due("hits(2)", desk.hits(2), -1);
         desk.start();
