@@ -496,7 +496,7 @@ public final class StopDesk {
             return takes(';');
         }
 
-        private void emitEnd(char first) {
+        private void emitEnd(int first) {
             switch (first) {
                 case '!':
                     emit(PUT, 0);
