@@ -10,6 +10,7 @@ public final class AsideTest {
         evaluateLeavesNoTrace();
         theCopyIsTheLowestFrame();
         throwsFailUnlessCaughtInACall();
+        whatFailsLeavesNothingBehind();
         aHundredPointsMayBePassed();
         throwsWithinTheHundredAreThrows();
         valueIsThatOfTheLatestThatAnswered();
@@ -127,13 +128,26 @@ public final class AsideTest {
         checks.due("a division behind a call", Checks.evaluate(desk, 0, "C()/a"), -2);
         checks.due("thrown on from a second block", Checks.evaluate(desk, 0, "D(0)"), -2);
         gives(desk, 0, "D(1)", 1);
-        for (int i = 0; i < 50; i++) {
+        for (int i = 0; i < 20; i++) {
             checks.due("again and again", Checks.evaluate(desk, 0, "1+(2+(3+(1/0)))"), -2);
         }
         gives(desk, 0, "7-(8-9)", 8);
         checks.due("not caught outside", desk.line(0), 1);
         checks.due("go", desk.go(0, 50), 4);
         checks.due("output", desk.output(0), 2);
+    }
+
+    private static void whatFailsLeavesNothingBehind() {
+        StopDesk desk = Checks.started("A0{@1{}}B3{^a*10+b*10+c;}C0{@1{}}");
+        String[] failing = {"B(1,2,3+(B(4,5,6+(7/0))))", "B(1,2,3+(B(4,5,6+C())))"};
+        for (String condition : failing) {
+            Checks.stop(desk, 0, condition, 0, false);
+            for (int i = 0; i < 10; i++) {
+                checks.due("go", desk.go(0, 50), 0);
+            }
+            checks.due("hits", desk.hits(0), 0);
+            gives(desk, 0, "B(1,2,3+(B(4,5,6+(7-7))))", 579);
+        }
     }
 
     /** B(n) passes 2 * n + 2 points and C() one. */

@@ -15,6 +15,14 @@ final class Checks {
         due(call, got ? 1 : 0, want ? 1 : 0);
     }
 
+    void due(String call, String got, String want) {
+        asked++;
+        if (!got.equals(want)) {
+            wrong++;
+            System.out.println(call + " answered " + got + ", due is " + want);
+        }
+    }
+
     /** Ends the test: exit code 1 if an answer was wrong. */
     void end() {
         System.out.println(asked + " answers, " + wrong + " not as due");
@@ -67,6 +75,28 @@ final class Checks {
             answer = desk.go(0, 50);
         }
         return answer;
+    }
+
+    /** All that can be seen of a desk without changing it, in some 140 calls. */
+    static String seen(StopDesk desk) {
+        StringBuilder all = new StringBuilder();
+        all.append(desk.state()).append(' ').append(desk.result()).append(' ').append(desk.points());
+        all.append(' ').append(desk.depth()).append(' ').append(desk.value());
+        for (int frame = 0; frame < 6; frame++) {
+            all.append("\nframe ").append(desk.line(frame)).append(' ').append(desk.function(frame));
+            for (int v = 0; v < 6; v++) {
+                all.append(' ').append(desk.variable(frame, v));
+            }
+        }
+        all.append("\nhits");
+        for (int line = 0; line < 40; line++) {
+            all.append(' ').append(desk.hits(line));
+        }
+        all.append("\nput and noted");
+        for (int k = -1; k < 16; k++) {
+            all.append(' ').append(desk.output(k)).append(' ').append(desk.note(k));
+        }
+        return all.toString();
     }
 
     static String repeat(String part, int times) {
