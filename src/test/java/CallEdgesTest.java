@@ -53,6 +53,7 @@ public final class CallEdgesTest {
         value();
         output();
         note();
+        allOf512Calls();
         checks.end();
     }
 
@@ -891,5 +892,21 @@ public final class CallEdgesTest {
             checks.due("note(0) anew", desk.note(0), 0);
             checks.due("note(15) anew", desk.note(15), 0);
         }
+    }
+
+    // "An object is used for at most 512 calls after it has been made"
+    private static void allOf512Calls() {
+        StopDesk desk = Checks.loaded("A0{@1{!1;}}");
+        desk.stop(1, 0, true);
+        desk.start();
+        // Writing, load, stop and start were 14 calls, and four are asked at the end.
+        int passes = 512 - 14 - 4;
+        for (int i = 0; i < passes; i++) {
+            checks.due("go " + i, desk.go(0, 50), 0);
+        }
+        checks.due("points", desk.points(), passes * 50);
+        checks.due("put out", desk.output(-1), passes * 25);
+        checks.due("noted", desk.note(-1), passes * 25);
+        checks.due("hits", desk.hits(1), passes * 25);
     }
 }
